@@ -1,0 +1,113 @@
+import java.lang.reflect.Constructor;
+import java.lang.reflect.Field;
+import java.lang.reflect.Method;
+import java.lang.reflect.Modifier;
+import java.util.Arrays;
+import java.util.Set;
+import java.util.TreeSet;
+
+/** The public face: every member that the document writes, and no other. */
+public final class FaceTest {
+    private static final String[] FACE = {
+        "int append(int,int,int,int,int) S", "int truncate(int) A", "int load() ",
+        "int errorPosition() ", "int hang(int,int,int) SA", "int takeDown(int) SA",
+        "int shift(int,int) SA", "int beamOf(int) SA", "int positionOf(int) SAN",
+        "int torque(int) SA", "int bellAt(int,int) SA", "int freePositions(int,int) SA",
+        "int bestPosition(int,int) SA", "int mirroredTorque(int) SA", "int mirroredBells(int) SA",
+        "int setPlan(int,int,int) SA", "int clearPlan(int) SA", "int planConflicts() S",
+        "int planUnbalanced() S", "int stepsToPlan() S", "int planStep(int) SA",
+        "int startSwing(int,int,int) SA", "int stopSwing(int) SA", "int offset(int,int) SAN",
+        "int gap(int,int,int) SAN", "int firstCollision() S", "int collidingBells() S",
+        "int safeStart(int,int) SA", "int safeAmplitude(int) SA", "int strikes(int,int,int) SA",
+        "int strikeTogether(int,int) SA", "int setChime(int,int,int) SA", "int clearChime(int) SA",
+        "boolean isQuiet(int) SA", "int quietMinutes() S", "int longestLoud() S",
+        "int soundsAt(int) SA", "int soundsPerDay(int) SA", "int nextSound(int) SA",
+        "int busiestMinute() S", "int soundTogether(int,int) SA", "int leastDelay(int) SA",
+        "int ropeLength(int) SA", "int fewestPieces() S", "int pieceOf(int) SA", "int waste() S",
+        "int extraPiece() S", "int undo() S"
+    };
+
+    private FaceTest() {
+    }
+
+    public static void main(String[] args) {
+        Class<?> face = BellTowerPlanner.class;
+        Check.same("the class is public and final", Modifier.PUBLIC | Modifier.FINAL,
+                face.getModifiers());
+        Check.same("NONE", -1, BellTowerPlanner.NONE);
+        constructors(face);
+        methods(face);
+        fields(face);
+        for (Class<?> nested : face.getDeclaredClasses()) {
+            nested(face, nested);
+        }
+        Check.finish();
+    }
+
+    private static void constructors(Class<?> face) {
+        Constructor<?>[] all = face.getDeclaredConstructors();
+        Check.same("constructors", 1, all.length);
+        Check.same("parameters of the constructor", 0, all[0].getParameterCount());
+        Check.same("its modifiers", Modifier.PUBLIC, all[0].getModifiers());
+    }
+
+    private static void methods(Class<?> face) {
+        Set<String> due = new TreeSet<>(Arrays.asList(FACE));
+        for (Method method : face.getDeclaredMethods()) {
+            if (!Modifier.isPrivate(method.getModifiers()) && !method.isSynthetic()) {
+                Check.same(described(method) + " is due", 1, due.remove(described(method)) ? 1 : 0);
+                Check.same(method + " modifiers", Modifier.PUBLIC, method.getModifiers());
+            } else {
+                isPrivateName(method);
+            }
+        }
+        Check.same("missing methods: " + due, 0, due.size());
+    }
+
+    private static String described(Method method) {
+        StringBuilder text = new StringBuilder(method.getReturnType() + " " + method.getName());
+        String parameters = Arrays.toString(method.getParameterTypes());
+        text.append('(').append(parameters.replaceAll("[\\[\\] ]", "")).append(") ");
+        for (Class<?> thrown : method.getExceptionTypes()) {
+            String name = thrown.getSimpleName();
+            text.append(name.startsWith("No") ? 'N' : name.startsWith("IllegalS") ? 'S' : 'A');
+        }
+        return text.toString();
+    }
+
+    private static void isPrivateName(Method method) {
+        for (String line : FACE) {
+            boolean same = line.contains(" " + method.getName() + "(");
+            Check.same(method + " bears the name of a public method", 0, same ? 1 : 0);
+        }
+    }
+
+    private static void fields(Class<?> face) {
+        for (Field field : face.getDeclaredFields()) {
+            boolean constant = field.getName().equals("NONE");
+            int due = constant ? Modifier.PUBLIC | Modifier.STATIC | Modifier.FINAL : 0;
+            int got = field.getModifiers();
+            boolean right = constant ? got == due : Modifier.isPrivate(got);
+            Check.same(field + " has its modifiers", 1, right ? 1 : 0);
+            staticIsFinal(field);
+        }
+    }
+
+    private static void staticIsFinal(Field field) {
+        boolean open = Modifier.isStatic(field.getModifiers())
+                && !Modifier.isFinal(field.getModifiers());
+        Check.same(field + " is static and not final", 0, open ? 1 : 0);
+    }
+
+    private static void nested(Class<?> face, Class<?> nested) {
+        boolean shown = Modifier.isPublic(nested.getModifiers())
+                || Modifier.isProtected(nested.getModifiers());
+        Check.same(nested + " is shown", 0, shown ? 1 : 0);
+        for (Method method : nested.getDeclaredMethods()) {
+            isPrivateName(method);
+        }
+        for (Field field : nested.getDeclaredFields()) {
+            staticIsFinal(field);
+        }
+    }
+}
