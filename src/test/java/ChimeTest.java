@@ -12,6 +12,7 @@ public final class ChimeTest {
         setting();
         sounding();
         soundingTogether();
+        soundingAtMidnight();
         delays();
         Check.finish();
     }
@@ -62,6 +63,9 @@ public final class ChimeTest {
         Check.due("clearChime(0) again", -2, () -> p.clearChime(0));
         Check.due("clearChime(2)", 1, () -> p.clearChime(2));
         Check.due("clearChime(1)", 0, () -> p.clearChime(1));
+        p.setChime(0, 1, 1);
+        p.setChime(1, 1, 1);
+        Check.due("clearChime(1) beside bell 0", 1, () -> p.clearChime(1));
     }
 
     private static void sounding() {
@@ -113,6 +117,21 @@ public final class ChimeTest {
         Check.due("soundsAt(720)", 7, () -> p.soundsAt(720));
         Check.due("the one with three bells", 720, p::busiestMinute);
         Check.due("0 is quiet", 1, () -> p.soundTogether(0, 2));
+    }
+
+    private static void soundingAtMidnight() {
+        BellTowerPlanner p = Check.tower(BELLS);
+        p.hang(0, 0, 0);
+        p.hang(1, 0, 4);
+        p.setChime(0, 0, 1439);
+        p.setChime(1, 0, 1440);
+        Check.due("busiestMinute()", 0, p::busiestMinute);
+        Check.due("soundsPerDay(0)", 2, () -> p.soundsPerDay(0));
+        Check.due("soundTogether(0, 1)", 1, () -> p.soundTogether(0, 1));
+        Check.due("nextSound(0)", 0, () -> p.nextSound(0));
+        Check.due("nextSound(1)", 1439, () -> p.nextSound(1));
+        Check.due("soundsAt(0)", 3, () -> p.soundsAt(0));
+        Check.due("soundsAt(1439)", 1, () -> p.soundsAt(1439));
     }
 
     private static void delays() {

@@ -15,6 +15,7 @@ public final class HangingTest {
         bestPlaces();
         mirroring();
         mirroringManyBells();
+        mirroringNearBells();
         Check.finish();
     }
 
@@ -165,6 +166,20 @@ public final class HangingTest {
         Check.due("none mirrored", 0, () -> p.mirroredBells(0));
         p.hang(3, 1, 0);
         Check.due("a bell at 0", 0, () -> p.mirroredBells(1));
+    }
+
+    private static void mirroringNearBells() {
+        BellTowerPlanner p = Check.tower("beam 300 9000;bell 100 2 4;bell 100 2 4;bell 200 2 4;");
+        p.hang(2, 0, -14);
+        Check.due("one bell below 0", 2800, () -> p.mirroredTorque(0));
+        Check.due("its torque", -2800, () -> p.torque(0));
+        p.hang(0, 0, 4);
+        p.hang(1, 0, -6);
+        Check.due("2800 - 600 - 400 is not clear", 2600, () -> p.mirroredTorque(0));
+        Check.due("bell 2 before bells 0 and 1", 4, () -> p.mirroredBells(0));
+        p.shift(1, -8);
+        Check.due("2800 - 800 - 400", 1600, () -> p.mirroredTorque(0));
+        Check.due("bell 1, below 0", 2, () -> p.mirroredBells(0));
     }
 
     private static void mirroringManyBells() {

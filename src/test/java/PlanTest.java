@@ -16,6 +16,7 @@ public final class PlanTest {
         aside();
         goalNotReached();
         longWay();
+        eightBells();
         Check.finish();
     }
 
@@ -164,6 +165,19 @@ public final class PlanTest {
         Check.due("the goal is balanced", 0, p::planUnbalanced);
         noWay("neither bell can be taken down", p);
         Check.due("the queries changed nothing", 110, () -> p.shift(0, 10));
+    }
+
+    private static void eightBells() {
+        BellTowerPlanner p = Check.tower("beam 300 50000;" + "bell 10 2 4;".repeat(8));
+        for (int bell = 0; bell < 7; bell++) {
+            p.hang(bell, 0, 4 * bell - 15);
+        }
+        way("no plan for eight", p);
+        for (int bell = 0; bell < 8; bell++) {
+            p.setPlan(bell, 0, 4 * bell - 14);
+        }
+        Check.due("bell 7 at 14", 0, p::planConflicts);
+        way("each one on", p, 0, 3, 2, 6, 5, 9, 8, 12, 11, 15, 14, 18, 17, 20, 23);
     }
 
     /** Bell 1 fits only after bell 2 is down, and bell 0 only with bell 1 as its counterweight. */

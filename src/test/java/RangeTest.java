@@ -203,6 +203,7 @@ public final class RangeTest {
         }
         Check.due("isQuiet(0)", 0, () -> p.isQuiet(0) ? 1 : 0);
         Check.due("isQuiet(1439)", 0, () -> p.isQuiet(1439) ? 1 : 0);
+        Check.due("soundsAt(0)", 0, () -> p.soundsAt(0));
         Check.due("soundsAt(1439)", 0, () -> p.soundsAt(1439));
         Check.due("nextSound(1439)", -2, () -> p.nextSound(1439));
     }

@@ -154,6 +154,23 @@ public final class SwingTest {
         p.startSwing(4, 999, 15);
         Check.due("the other comes at tick 1000", 0, () -> p.safeStart(0, 1));
         othersCollide();
+        otherBelow();
+    }
+
+    private static void otherBelow() {
+        BellTowerPlanner p = Check.tower(TOWER);
+        p.hang(0, 0, 6);
+        p.hang(4, 0, 0);
+        Check.due("just clear of the bell below", 0, () -> p.safeStart(0, 1));
+        Check.due("too near to the bell below", -3, () -> p.safeStart(0, 2));
+        p.startSwing(4, 5, 4);
+        Check.due("in time with the bell below", 5, () -> p.safeStart(0, 4));
+        p.hang(2, 0, 11);
+        Check.due("too near to the bell above", -3, () -> p.safeStart(0, 4));
+        p.startSwing(0, 5, 4);
+        Check.due("not in time with it: 2 or less", -3, () -> p.safeAmplitude(0));
+        p.stopSwing(4);
+        Check.due("between both", 1, () -> p.safeAmplitude(0));
     }
 
     private static void othersCollide() {
@@ -232,6 +249,10 @@ public final class SwingTest {
         Check.due("the other way", 8, () -> p.strikeTogether(1, 0));
         p.startSwing(2, 0, 1);
         Check.due("even and odd ticks", -3, () -> p.strikeTogether(0, 2));
+        p.startSwing(2, 999, 1);
+        p.startSwing(0, 997, 4);
+        Check.due("odd and even ticks", -3, () -> p.strikeTogether(0, 2));
+        p.startSwing(0, 2, 4);
         p.startSwing(2, 999, 1);
         Check.due("1000, 1002, .. and 4, 8, ..", 1000, () -> p.strikeTogether(2, 0));
     }

@@ -18,6 +18,7 @@ public final class TextTest {
         wrongCounts();
         wrongOrder();
         loadingAgain();
+        loadingFullTexts();
         Check.finish();
     }
 
@@ -110,6 +111,9 @@ public final class TextTest {
         text("Beam 300 0;", -11, 0);
         text("beams 300 0;", -11, 0);
         text("bea m300 0;", -11, 0);
+        text(BEAM + "bellz 10 2 4;", -11, 11);
+        text(BEAM + "bella 10 2 4;", -11, 11);
+        text(BEAM + "aell 10 2 4;", -11, 11);
         text("beam 300 0;;", -11, 11);
         text("beam -300 0;", -11, 5);
         text("beam 300,0;", -11, 8);
@@ -168,6 +172,30 @@ public final class TextTest {
         text(BEAM + BELL + ROPE + QUIET, -11, 32);
         text(BEAM + BELL + ROPE + BELL, -11, 32);
         text(BEAM + BELL + QUIET.repeat(6) + ROPE + QUIET, -11, 92);
+    }
+
+    private static void loadingFullTexts() {
+        BellTowerPlanner p = new BellTowerPlanner();
+        for (int i = 0; i < 3; i++) {
+            Check.write(p, BEAM.repeat(4) + BELL.repeat(8) + QUIET.repeat(6) + ROPE.repeat(8));
+            Check.due("load() of a full text", 8, p::load);
+            Check.due("quietMinutes() of it", 1, p::quietMinutes);
+            Check.write(p, BEAM + BELL + QUIET.repeat(6) + ROPE.repeat(8) + ROPE);
+            Check.due("load() of too full a text", -14, p::load);
+        }
+        Check.write(p, BEAM + BELL + "quiet 1439 1440;");
+        Check.due("load() of a short text", 1, p::load);
+        Check.due("quietMinutes() of the last", 1, p::quietMinutes);
+        Check.due("isQuiet(0)", 0, () -> p.isQuiet(0) ? 1 : 0);
+        Check.due("isQuiet(1439)", 1, () -> p.isQuiet(1439) ? 1 : 0);
+        Check.due("beam 1", Check.ARGUMENT, () -> p.torque(1));
+        Check.due("bell 1", Check.ARGUMENT, () -> p.beamOf(1));
+        p.hang(0, 0, 0);
+        Check.due("no rope piece", -2, p::fewestPieces);
+        Check.write(p, BEAM + BELL);
+        Check.due("load() without quiet hours", 1, p::load);
+        Check.due("no quiet minute", 0, p::quietMinutes);
+        Check.due("extraPiece() of no bell", 0, p::extraPiece);
     }
 
     private static void loadingAgain() {
