@@ -60,6 +60,10 @@ public final class RopeTest {
         cutting("550, 700, 600 and 650", p, 3, 60, 2, 0, 1, 1);
         p.takeDown(1);
         cutting("550, 600 and 650", p, 2, 200, 0, -2, 1, 1);
+        p.takeDown(0);
+        p.takeDown(2);
+        p.takeDown(3);
+        cutting("no bell any more", p, 0, 0, -2, -2, -2, -2);
     }
 
     private static void noCutting() {
