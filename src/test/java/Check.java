@@ -8,6 +8,7 @@ final class Check {
 
     private static int calls = 0;
     private static int wrong = 0;
+    private static String heading = "";
 
     private Check() {
     }
@@ -21,7 +22,7 @@ final class Check {
         }
     }
 
-    private static int numberOf(RuntimeException e) {
+    static int numberOf(RuntimeException e) {
         if (e.getClass() == IllegalStateException.class) {
             return STATE;
         }
@@ -42,7 +43,7 @@ final class Check {
         calls++;
         if (got != due) {
             wrong++;
-            System.out.println(call + " answered " + shown(got) + ", due is " + shown(due));
+            System.out.println(heading + call + " answered " + shown(got) + ", due is " + shown(due));
         }
     }
 
@@ -68,6 +69,15 @@ final class Check {
 
     static int wrongSoFar() {
         return wrong;
+    }
+
+    static int callsSoFar() {
+        return calls;
+    }
+
+    /** Stands before each wrong answer that is shown from now on. */
+    static void setHeading(String text) {
+        heading = text;
     }
 
     /** Puts a text into the empty buffer of a planner. */

@@ -105,9 +105,16 @@ public final class FaceTest {
         Check.same(nested + " is shown", 0, shown ? 1 : 0);
         for (Method method : nested.getDeclaredMethods()) {
             isPrivateName(method);
+            Check.same(method + " takes more than seven parameters", 0,
+                    method.getParameterCount() > 7 ? 1 : 0);
         }
+        int fields = 0;
         for (Field field : nested.getDeclaredFields()) {
             staticIsFinal(field);
+            fields += Modifier.isStatic(field.getModifiers()) ? 0 : 1;
         }
+        Check.same(nested + " has more than twenty fields", 0, fields > 20 ? 1 : 0);
+        Check.same(nested + " is an inner class", 1,
+                Modifier.isStatic(nested.getModifiers()) ? 1 : 0);
     }
 }
