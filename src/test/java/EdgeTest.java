@@ -10,6 +10,7 @@ public final class EdgeTest {
 
     public static void main(String[] args) throws IOException {
         Sentence.readDocument();
+        EdgesOfWhole.check();
         EdgesOfText.check();
         EdgesOfHanging.check();
         EdgesOfPlans.check();

@@ -1,13 +1,53 @@
-/** The three examples of the document. */
+import java.io.IOException;
+import java.nio.file.Files;
+import java.nio.file.Path;
+import java.util.regex.Matcher;
+import java.util.regex.Pattern;
+
+/**
+ * The three examples of the document: each result written out here, and once more as it stands in
+ * the document. Run in the project's folder, beside which the document stands.
+ */
 public final class ExamplesTest {
+    private static final Path DOCUMENT = Path.of("../shared/DOC.md");
+    private static final Pattern RESULT =
+            Pattern.compile("(\\w+\\([-\\d, ]*\\)) (?:returns ([-\\w]+)|(throws \\w+))");
+
     private ExamplesTest() {
     }
 
-    public static void main(String[] args) {
+    public static void main(String[] args) throws IOException {
         first();
         second();
         third();
+        asInTheDocument();
         Check.finish();
+    }
+
+    private static void asInTheDocument() throws IOException {
+        String document = Files.readString(DOCUMENT).replaceAll("\\s+", " ");
+        int begin = document.indexOf("Example 1:");
+        int end = document.indexOf("The constants:");
+        Check.same("the examples stand in the document", 1, begin >= 0 && end > begin ? 1 : 0);
+        String[] examples = document.substring(begin, end).split("Example \\d+:");
+        Check.same("examples", 3, examples.length - 1);
+        int results = 0;
+        for (String example : examples) {
+            results += runExample(example);
+        }
+        Check.same("results of the examples", 3 + 14 + 11, results);
+    }
+
+    private static int runExample(String example) {
+        Trial trial = new Trial();
+        Matcher matcher = RESULT.matcher(example);
+        int results = 0;
+        while (matcher.find()) {
+            String answer = matcher.group(2) != null ? matcher.group(2) : matcher.group(3);
+            Script.due(trial, matcher.group(1), answer);
+            results++;
+        }
+        return results;
     }
 
     private static void first() {

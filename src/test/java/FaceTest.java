@@ -1,13 +1,26 @@
+import java.io.IOException;
 import java.lang.reflect.Constructor;
 import java.lang.reflect.Field;
 import java.lang.reflect.Method;
 import java.lang.reflect.Modifier;
+import java.nio.file.Files;
+import java.nio.file.Path;
 import java.util.Arrays;
 import java.util.Set;
 import java.util.TreeSet;
+import java.util.regex.Matcher;
+import java.util.regex.Pattern;
 
-/** The public face: every member that the document writes, and no other. */
+/**
+ * The public face: every member that the document writes, to the letter, and no other. Run in the
+ * project's folder, beside which the document stands.
+ */
 public final class FaceTest {
+    private static final Path DOCUMENT = Path.of("../shared/DOC.md");
+    private static final Path SOURCE = Path.of("src/main/java/BellTowerPlanner.java");
+    private static final Pattern SIGNATURE =
+            Pattern.compile("## Promise \\d+: .*\\s+`(.*\\).*)`");
+
     private static final String[] FACE = {
         "int append(int,int,int,int,int) S", "int truncate(int) A", "int load() ",
         "int errorPosition() ", "int hang(int,int,int) SA", "int takeDown(int) SA",
@@ -30,7 +43,8 @@ public final class FaceTest {
     private FaceTest() {
     }
 
-    public static void main(String[] args) {
+    public static void main(String[] args) throws IOException {
+        asInTheDocument();
         Class<?> face = BellTowerPlanner.class;
         Check.same("the class is public and final", Modifier.PUBLIC | Modifier.FINAL,
                 face.getModifiers());
@@ -42,6 +56,30 @@ public final class FaceTest {
             nested(face, nested);
         }
         Check.finish();
+    }
+
+    private static void asInTheDocument() throws IOException {
+        String source = " " + Files.readString(SOURCE).replaceAll("\\s+", " ");
+        String document = Files.readString(DOCUMENT);
+        int begin = document.indexOf("```java") + "```java".length();
+        String[] lines = document.substring(begin, document.indexOf("\n```\n", begin)).split("\n");
+        int members = 0;
+        for (String line : lines) {
+            String due = " " + line.trim().replaceAll("\\);$", ") {").replaceAll("(throws .*);$", "$1 {");
+            if (!line.isBlank() && !line.equals("}")) {
+                Check.same("the source holds" + due, 1, source.contains(due) ? 1 : 0);
+                members++;
+            }
+        }
+        Check.same("lines of the face", FACE.length + 4, members);
+        Matcher signatures = SIGNATURE.matcher(document);
+        int promises = 0;
+        while (signatures.find()) {
+            String due = " public " + signatures.group(1) + " {";
+            Check.same("the source holds" + due, 1, source.contains(due) ? 1 : 0);
+            promises++;
+        }
+        Check.same("promises with a signature", FACE.length + 1, promises);
     }
 
     private static void constructors(Class<?> face) {

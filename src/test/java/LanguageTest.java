@@ -20,6 +20,8 @@ public final class LanguageTest {
     private static final String LIBRARY =
             "Math\\.(abs|min|max)\\(|Integer\\.bitCount\\(|System\\.arraycopy\\(";
 
+    private static final int MAX_DEPTH = 8;
+
     private LanguageTest() {
     }
 
@@ -36,7 +38,19 @@ public final class LanguageTest {
         Check.same("more than 12 classes", 0, count("\\bclass ", code) > 12 ? 1 : 0);
         Check.same("signs above 127", 0, count("[^\\x00-\\x7f]", code));
         lengths(lines);
+        depths(new CallDepth(lines));
         Check.finish();
+    }
+
+    private static void depths(CallDepth source) {
+        for (String name : source.names()) {
+            int depth = source.depthOf(name);
+            Check.same(name + "() is open more than eight deep, or twice: " + depth, 0,
+                    depth > MAX_DEPTH ? 1 : 0);
+        }
+        Check.same("fewer methods called than the face has", 0, source.methods() < 48 ? 1 : 0);
+        Check.same("constructors that call or throw: " + source.busyConstructors(), 0,
+                source.busyConstructors().size());
     }
 
     private static String withoutComments(String source) {

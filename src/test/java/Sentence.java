@@ -11,7 +11,7 @@ import java.util.regex.Pattern;
 /**
  * The sentences of the document. Each test of an edge begins with the words that it is for: they
  * must stand in the section that it names, answers must be checked for them, and in the end every
- * sentence of the promises and of the rules must have had its words quoted.
+ * sentence must have had its words quoted.
  */
 final class Sentence {
     private static final Path DOCUMENT = Path.of("../shared/DOC.md");
@@ -19,6 +19,10 @@ final class Sentence {
     private static final Pattern RULE = Pattern.compile("(\\d)\\. [A-Z ]+");
     private static final Pattern END_OF_RULES = Pattern.compile("Examples \\(.*");
     private static final String END_OF_SENTENCE = "(?<=[a-zA-Z0-9)][.;]) |(?<=\\.\\)) ";
+
+    /** FaceTest and ExamplesTest are for the first three; the last one promises nothing. */
+    private static final List<String> TESTED_ELSEWHERE =
+            List.of("", "The public face", "Examples", "Not promised");
 
     private static final Map<String, List<String>> LINES = new LinkedHashMap<>();
     private static final Map<String, List<String>> QUOTES = new LinkedHashMap<>();
@@ -42,6 +46,8 @@ final class Sentence {
                 section = line.substring(3);
             } else if (END_OF_RULES.matcher(line).matches()) {
                 section = "Examples";
+            } else if (line.equals("The constants:")) {
+                section = "Constants";
             } else {
                 LINES.computeIfAbsent(section, name -> new ArrayList<>()).add(plain(line));
             }
@@ -75,7 +81,7 @@ final class Sentence {
     }
 
     private static boolean stands(String section, String words) {
-        for (String line : LINES.getOrDefault(section, List.of())) {
+        for (String line : linesOf(section)) {
             if (line.contains(words)) {
                 return true;
             }
@@ -93,7 +99,7 @@ final class Sentence {
         endLatest();
         int sentences = 0;
         for (String section : LINES.keySet()) {
-            if (section.startsWith("Promise ") || section.startsWith("Rule ")) {
+            if (!TESTED_ELSEWHERE.contains(section)) {
                 Check.setHeading(section + ": ");
                 sentences += finishSection(section);
             }
@@ -114,6 +120,10 @@ final class Sentence {
             }
         }
         return sentences;
+    }
+
+    static List<String> linesOf(String section) {
+        return LINES.getOrDefault(section, List.of());
     }
 
     private static boolean isQuoted(String section, String part) {
